@@ -154,7 +154,8 @@ public final class WhoPrompts {
         if (!play.has(line)) {
             return BAD;
         }
-        play.held[line] = play.heldAfterEvening(line, play.held[line]);
+        int before = play.held[line];
+        play.held[line] = Math.min(HELD_MOST, before + play.gains(line, before));
         return play.held[line];
     }
 
@@ -343,6 +344,7 @@ public final class WhoPrompts {
         if (play.size == 0) {
             return STATE;
         }
+        thought.begin(play);
         thought.spend(play, n);
         return line == -1 ? thought.harm : thought.times[line];
     }
@@ -638,10 +640,6 @@ public final class WhoPrompts {
             return found;
         }
 
-        int othersWithCue(int line) {
-            return Integer.bitCount(cued[cue[line]]) - 1;
-        }
-
         /** Bits of the LINES to which there is a JUMP from a LINE. */
         int jumpsFrom(int line) {
             return cued[last[line]] & ~(3 << line);
@@ -676,10 +674,6 @@ public final class WhoPrompts {
         int gains(int line, int h) {
             int worth = gaining.isTold() ? gaining.worth(this, line, h) : (100 - h) / 3;
             return Math.max(0, Math.min(100, worth));
-        }
-
-        int heldAfterEvening(int line, int h) {
-            return Math.min(HELD_MOST, h + gains(line, h));
         }
 
         int risk(int line) {
@@ -771,7 +765,7 @@ public final class WhoPrompts {
                 case 'l':
                     return play.seconds[line];
                 default:
-                    return play.othersWithCue(line);
+                    return Integer.bitCount(play.cued[play.cue[line]]) - 1;
             }
         }
 
@@ -1109,7 +1103,7 @@ public final class WhoPrompts {
             }
             filled = 0;
             add(from, told, 0);
-            for (int at = 0; at < filled; at++) {
+            for (int at = 0; at < filled && at < queue.length; at++) {
                 if (reaches(play, at, target)) {
                     return stepsTo(filled - 1);
                 }
@@ -1177,26 +1171,10 @@ public final class WhoPrompts {
         final int[] times = new int[LINES_MOST];
         private final int[] held = new int[LINES_MOST];
         private final int[] weight = new int[LINES_MOST];
-        // By how much HARM would become less if the LINE was rehearsed next.
-        private final int[] relief = new int[LINES_MOST];
+        // By how much HELD would be more if the LINE was rehearsed next.
+        private final int[] gain = new int[LINES_MOST];
 
-        void spend(Play play, int n) {
-            begin(play);
-            for (int evening = 0; evening < n; evening++) {
-                int best = 0;
-                for (int i = 1; i < play.size; i++) {
-                    if (relief[i] > relief[best]) {
-                        best = i;
-                    }
-                }
-                harm -= relief[best];
-                times[best]++;
-                held[best] = play.heldAfterEvening(best, held[best]);
-                foresee(play, best);
-            }
-        }
-
-        private void begin(Play play) {
+        void begin(Play play) {
             harm = 0;
             for (int i = 0; i < play.size; i++) {
                 times[i] = 0;
@@ -1208,8 +1186,24 @@ public final class WhoPrompts {
             }
         }
 
+        /** Behind begin(). */
+        void spend(Play play, int n) {
+            for (int evening = 0; evening < n; evening++) {
+                int best = 0;
+                for (int i = 1; i < play.size; i++) {
+                    if (gain[i] * weight[i] > gain[best] * weight[best]) {
+                        best = i;
+                    }
+                }
+                harm -= gain[best] * weight[best];
+                times[best]++;
+                held[best] += gain[best];
+                foresee(play, best);
+            }
+        }
+
         private void foresee(Play play, int line) {
-            relief[line] = (play.heldAfterEvening(line, held[line]) - held[line]) * weight[line];
+            gain[line] = Math.min(HELD_MOST - held[line], play.gains(line, held[line]));
         }
     }
 
