@@ -216,7 +216,10 @@ public final class PromisesTest {
         }
         due("5 a text of 119 bytes", law(x, 0, text.toString()), 1);
         due("5 its worth", x.of(0, 7), 100);
-        due("5 a text of 120 bytes", law(x, 0, text + ";"), -220);
+        due("5 a text of 120 bytes that ends too early", law(x, 0, text + ";"), -220);
+        due("5 a text of 120 bytes", law(x, 0, "-" + text), 1);
+        due("5 -50 and 59", x.of(0, 7), 9);
+        due("5 it stands still", x.of(2, 7), 9);
     }
 
     private static void promise5Faults() {
@@ -394,14 +397,28 @@ public final class PromisesTest {
         z.line(0, 1, 0);
         z.line(0, 1, 1001);
         due("12 what it tells itself is not told by then", z.way(1, -1), -2);
-        due("12 what stands ahead of i is told", longWay().way(100, -1), 1);
+        WhoPrompts ahead = new WhoPrompts();
+        ahead.line(0, 1, 2);
+        ahead.line(0, 1, 2000);
+        due("12 what stands ahead of i is told", ahead.way(100, -1), 1);
+        promise12WideSearch();
     }
 
-    private static WhoPrompts longWay() {
-        WhoPrompts x = new WhoPrompts();
-        x.line(0, 1, 2);
-        x.line(0, 1, 2000);
-        return x;
+    /** All jumps there can be, and a last line that needs what eight others tell. */
+    private static void promise12WideSearch() {
+        for (int facts = 7; facts <= 8; facts++) {
+            WhoPrompts x = new WhoPrompts();
+            for (int k = 0; k < 19; k++) {
+                boolean tells = k % 2 == 1 && k / 2 < facts;
+                x.line(0, 1, tells ? 1000 << k / 2 : 0);
+            }
+            x.line(0, 1, 255);
+            due("12 wide, of " + facts, x.way(19, -1), facts == 8 ? 9 : -2);
+            for (int k = 0; facts == 8 && k < 8; k++) {
+                due("12 wide, the " + k + "-th", x.way(19, k), 2 * k + 1);
+            }
+            due("12 wide, half of it was said", x.way(819, -1), facts == 8 ? 5 : -2);
+        }
     }
 
     private static void promise13Night() {
@@ -469,6 +486,8 @@ public final class PromisesTest {
         due("15 STATE", x.said(0, 0), -5);
         due("15 BAD ahead of STATE", x.said(0, 3), -1);
         due("15 k below 0 ahead of STATE", x.said(-1, 0), -1);
+        due("15 k 59 might be", x.said(59, 0), -5);
+        due("15 k 60 never is", x.said(60, 0), -1);
         x.line(11, 1, 1007);
         x.line(12, 1, 2003);
         x.line(13, 1, 4007);
@@ -774,6 +793,42 @@ public final class PromisesTest {
             due("25 still " + k, y.redo(), k);
         }
         due("25 all again", y.of(0, 6), 45);
+        manyMixedChanges();
+    }
+
+    private static void manyMixedChanges() {
+        WhoPrompts x = play(0, 0, 0, 0, 0, 0, 0);
+        int[][] values = new int[64][14];
+        for (int k = 0; k < 7; k++) {
+            values[0][k] = 50;
+        }
+        for (int k = 1; k < 64; k++) {
+            values[k] = values[k - 1].clone();
+            boolean held = k % 3 != 0;
+            int number = held ? k % 7 : k % 6;
+            int v = held ? k : k % 10;
+            x.mend(number, held ? 0 : 1, v);
+            values[k][held ? number : 7 + number] = v;
+        }
+        for (int k = 62; k >= 23; k--) {
+            x.undo();
+            sameValues("24 as behind change " + k, x, values[k]);
+        }
+        due("24 no more of them", x.undo(), -5);
+        for (int k = 24; k < 64; k++) {
+            x.redo();
+            sameValues("25 as behind change " + k, x, values[k]);
+        }
+        due("25 no more of them", x.redo(), -5);
+    }
+
+    private static void sameValues(String when, WhoPrompts x, int[] values) {
+        for (int k = 0; k < 7; k++) {
+            due(when + ", HELD of " + k, x.of(k, 6), values[k]);
+        }
+        for (int k = 0; k < 6; k++) {
+            due(when + ", PAUSE of " + k, x.of(k, 10), values[7 + k]);
+        }
     }
 
     private static void promise26Body() {
@@ -932,6 +987,7 @@ public final class PromisesTest {
             due("33 as they all were before again, " + k, x.element(0, k), back[k]);
         }
         due("33 none", x.shift(0, 5, 1, 3, 0), 0);
+        due("33 all of it, to itself", x.shift(1, 0, 1, 0, 3), 3);
         int[][] places = {{4, 0, 2}, {0, 2, 2}, {-1, 0, 1}, {0, -1, 1}, {0, 0, -1}, {6, 0, 0}, {0, 4, 0}, {HIGH, 0, 1},
             {1, 0, HIGH}, {0, HIGH, 1}, {LOW, LOW, LOW}};
         for (int[] p : places) {
