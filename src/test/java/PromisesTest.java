@@ -707,6 +707,12 @@ public final class PromisesTest {
         due("21 none that add nothing", x.newspaper(15, 0), 4 + 32 + 64);
         x.mend(4, 0, 99);
         due("21 the better known one adds less", x.newspaper(12, 0), 4 + 32);
+        x.line(300, 1, 0);
+        x.mend(7, 0, 99);
+        due("21 one that adds 1", x.newspaper(31, 0), 128);
+        due("21 its sum", x.newspaper(31, 1), 1);
+        x.mend(7, 0, 100);
+        due("21 one that adds 0", x.newspaper(31, 0), 0);
         int[][] wrong = {{-1, 0}, {6, 0}, {16, 0}, {60, 0}, {56, 0}, {10, 2}, {10, -1}, {HIGH, 0}, {LOW, 0}};
         for (int[] w : wrong) {
             due("21 wrong newspaper(" + w[0] + ", " + w[1] + ")", x.newspaper(w[0], w[1]), -1);
