@@ -54,7 +54,7 @@ public final class WhoPrompts {
     }
 
     public int lines(int shelf, int i, int n) {
-        if (isNoShelf(shelf) || i < 0 || n < 1 || n > FROM_ROW_MOST) {
+        if (isNoShelf(shelf) || n < 1 || n > FROM_ROW_MOST) {
             return BAD;
         }
         Shelf row = shelves[shelf];
@@ -65,8 +65,8 @@ public final class WhoPrompts {
             return OTHER_KIND;
         }
         for (int came = 0; came < n; came++) {
-            // Written so that a great i cannot wrap.
-            if (i > row.size - FIVE * (came + 1) || !addFromRow(row, i + FIVE * came)) {
+            // A place that the row has not ends it, below 0 too; written so that a great i cannot wrap.
+            if (i < 0 || i > row.size - FIVE * (came + 1) || !addFromRow(row, i + FIVE * came)) {
                 return came;
             }
         }
@@ -132,8 +132,11 @@ public final class WhoPrompts {
             return BAD;
         }
         int before = held ? play.held[number] : play.pause[number];
-        changes.note(what, number, before, v);
-        play.change(what, number, v);
+        // What stays as it was is no CHANGE: undo() must reach the one ahead, redo() the one behind.
+        if (v != before) {
+            changes.note(what, number, before, v);
+            play.change(what, number, v);
+        }
         return before;
     }
 
@@ -245,9 +248,10 @@ public final class WhoPrompts {
     }
 
     public int said(int k, int what) {
-        if (k < 0 || k >= Night.MOST || what < 0 || what > 2) {
+        if (k < 0 || what < 0 || what > 2) {
             return BAD;
         }
+        // Ahead of the look at a great k: without a NIGHT there is nothing to hold it against.
         if (theNight.size == 0) {
             return STATE;
         }
@@ -992,7 +996,7 @@ public final class WhoPrompts {
 
     /** A NIGHT as it was said; size 0: none was. */
     private static final class Night {
-        static final int MOST = 60;
+        private static final int MOST = 60;
         private static final int RIGHT = 0, JUMPED = 1, DRIED = 2;
 
         int size = 0;

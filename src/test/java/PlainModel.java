@@ -61,7 +61,7 @@ final class PlainModel {
     }
 
     int lines(int shelf, int i, int n) {
-        if (!in(shelf, 0, 5) || i < 0 || !in(n, 1, 12)) {
+        if (!in(shelf, 0, 5) || !in(n, 1, 12)) {
             return BAD;
         }
         if (shelves[shelf] == null) {
@@ -71,7 +71,7 @@ final class PlainModel {
             return -12;
         }
         int came = 0;
-        for (long at = i; came < n && at + 5 <= r.length; at += 5) {
+        for (long at = i; came < n && at >= 0 && at + 5 <= r.length; at += 5) {
             int a = (int) at;
             if (!in(r[a + 1], 0, 9) || !in(r[a + 2], 0, 9) || !in(r[a], 0, 5) || !in(r[a + 4], 0, 255)) {
                 break;
@@ -138,6 +138,9 @@ final class PlainModel {
             return BAD;
         }
         int was = what == 0 ? play.get(number).held : pause[number];
+        if (was == v) {
+            return was;
+        }
         undone.clear();
         done.add(new Change(number, what, was, v));
         if (done.size() > 40) {
@@ -363,7 +366,7 @@ final class PlainModel {
     }
 
     int said(int k, int what) {
-        if (!in(k, 0, 59) || !in(what, 0, 2)) {
+        if (k < 0 || !in(what, 0, 2)) {
             return BAD;
         }
         if (night == null) {

@@ -134,14 +134,23 @@ public final class PromisesTest {
         due("3 a shelf that holds nothing is missing", x.lines(1, 0, 3), 0);
         due("3 shelf -1", x.lines(-1, 0, 1), -1);
         due("3 shelf 6", x.lines(6, 0, 1), -1);
-        due("3 place -1", x.lines(0, -1, 1), -1);
+        for (int place : new int[] {-1, -4, -5, -6, LOW}) {
+            due("3 no row, place " + place, x.lines(1, place, 1), 0);
+            due("3 a row has no place " + place, x.lines(0, place, 12), 0);
+        }
+        due("3 none came from below 0", x.count(0), 3);
+        due("3 n 0 where nothing is", x.lines(1, -1, 0), -1);
+        due("3 n 13 where nothing is", x.lines(1, -1, 13), -1);
+        due("3 shelf 6, place -1", x.lines(6, -1, 1), -1);
         due("3 n 0", x.lines(0, 0, 0), -1);
         due("3 n 13", x.lines(0, 0, 13), -1);
         x.row(1, 0, 5);
         due("3 bytes", x.lines(1, 0, 1), -12);
+        due("3 bytes, place -1", x.lines(1, -1, 1), -12);
         x.body(0);
         x.keep(1, 0);
         due("3 a body", x.lines(1, 0, 1), -12);
+        due("3 a body, place -1", x.lines(1, -1, 1), -12);
         due("3 BAD ahead of -12", x.lines(1, 0, 13), -1);
         int[][] notSo = {{6, 0, 0, 1, 0}, {-1, 0, 0, 1, 0}, {0, 10, 0, 1, 0}, {0, -1, 0, 1, 0}, {0, 0, 10, 1, 0},
             {0, 0, -1, 1, 0}, {0, 0, 0, 0, 0}, {0, 0, 0, 31, 0}, {0, 0, 0, 1, 256}, {0, 0, 0, 1, -1}};
@@ -269,6 +278,9 @@ public final class PromisesTest {
             due("7 wrong mend(" + w[0] + ", " + w[1] + ", " + w[2] + ")", x.mend(w[0], w[1], w[2]), -1);
         }
         due("7 four changes", x.count(2), 4);
+        due("7 HELD to the same", x.mend(1, 0, 0), 0);
+        due("7 PAUSE to the same", x.mend(5, 1, 3), 3);
+        due("7 what stays as it was is no CHANGE", x.count(2), 4);
     }
 
     private static void promise8Of() {
@@ -486,8 +498,11 @@ public final class PromisesTest {
         due("15 STATE", x.said(0, 0), -5);
         due("15 BAD ahead of STATE", x.said(0, 3), -1);
         due("15 k below 0 ahead of STATE", x.said(-1, 0), -1);
-        due("15 k 59 might be", x.said(59, 0), -5);
-        due("15 k 60 never is", x.said(60, 0), -1);
+        for (int k : new int[] {1, 59, 60, 61, HIGH}) {
+            due("15 no NIGHT, k " + k, x.said(k, 2), -5);
+            due("15 no NIGHT, what 3, k " + k, x.said(k, 3), -1);
+        }
+        due("15 k far below 0 ahead of STATE", x.said(LOW, 2), -1);
         x.line(11, 1, 1007);
         x.line(12, 1, 2003);
         x.line(13, 1, 4007);
@@ -800,6 +815,40 @@ public final class PromisesTest {
         }
         due("25 all again", y.of(0, 6), 45);
         manyMixedChanges();
+        mendsToTheSame();
+    }
+
+    private static void mendsToTheSame() {
+        WhoPrompts x = play(0, 0);
+        x.mend(0, 0, 50);
+        x.mend(2, 1, 0);
+        due("24 nothing changed", x.undo(), -5);
+        x.mend(0, 0, 20);
+        x.mend(0, 0, 20);
+        due("24 only the one", x.undo(), 0);
+        due("24 HELD ahead of it", x.of(0, 6), 50);
+        x.mend(0, 0, 50);
+        x.mend(4, 1, 0);
+        due("25 no other CHANGE came behind", x.redo(), 0);
+        due("25 HELD again", x.of(0, 6), 20);
+        x.mend(3, 1, 6);
+        x.mend(3, 1, 6);
+        due("24 PAUSE", x.undo(), 1);
+        due("24 PAUSE ahead of it", x.of(3, 10), 0);
+        due("24 then HELD", x.undo(), 0);
+        due("24 HELD at first", x.of(0, 6), 50);
+        x.rehearse(0);
+        x.mend(0, 0, 66);
+        due("24 the same behind a rehearsal", x.count(2), 0);
+        WhoPrompts y = play(0);
+        for (int k = 1; k <= 40; k++) {
+            y.mend(0, 0, k);
+        }
+        y.mend(0, 0, 40);
+        for (int k = 39; k >= 0; k--) {
+            due("24 the same drops no old one, " + k, y.undo(), k);
+        }
+        due("24 back to the first", y.of(0, 6), 50);
     }
 
     private static void manyMixedChanges() {

@@ -103,7 +103,7 @@ public final class RandomRunsTest {
             due(text("line", a, b, c), real.line(a, b, c), plain.line(a, b, c));
         } else if (die < 9) {
             a = num(0, 5);
-            b = num(0, 20);
+            b = num(-2, 20);
             c = num(1, 12);
             due(text("lines", a, b, c), real.lines(a, b, c), plain.lines(a, b, c));
         } else if (die < 10) {
@@ -113,7 +113,8 @@ public final class RandomRunsTest {
         } else if (die < 14) {
             b = num(0, 1);
             a = b == 0 ? someLine() : num(0, 5);
-            c = b == 0 ? num(0, 100) : num(0, 9);
+            // Now and then to what it is already, which is no CHANGE.
+            c = dice.nextInt(4) == 0 ? plain.of(a, b == 0 ? 6 : 10) : b == 0 ? num(0, 100) : num(0, 9);
             due(text("mend", a, b, c), real.mend(a, b, c), plain.mend(a, b, c));
         } else if (die < 20) {
             b = num(0, 11);
@@ -184,7 +185,7 @@ public final class RandomRunsTest {
             a = num(0, 4);
             due(text("told", a), real.told(a), plain.told(a));
         } else if (die < 5) {
-            a = num(0, Math.max(0, plain.told(0)));
+            a = num(0, Math.max(0, plain.told(0))) + (dice.nextInt(20) == 0 ? 60 : 0);
             b = num(0, 2);
             due(text("said", a, b), real.said(a, b), plain.said(a, b));
         } else if (die == 5) {
@@ -311,7 +312,7 @@ public final class RandomRunsTest {
             int v = dice.nextInt(15) == 0 ? num(0, 300) : num(k % 5 == 3 ? 1 : 0, high[k % 5]);
             due(text("put", shelf, k, v), real.put(shelf, k, v), plain.put(shelf, k, v));
         }
-        int i = num(0, 6), n = num(1, 12);
+        int i = num(-1, 6), n = num(1, 12);
         due(text("lines", shelf, i, n), real.lines(shelf, i, n), plain.lines(shelf, i, n));
     }
 }
