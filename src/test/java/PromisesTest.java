@@ -1,8 +1,5 @@
 /** A method for each promise: ordinary inputs, the edges that the document names, wrong inputs. */
-public final class PromisesTest {
-    private static final int LOW = Integer.MIN_VALUE, HIGH = Integer.MAX_VALUE;
-    private static final Checks C = new Checks();
-
+public final class PromisesTest extends TestBase {
     public static void main(String[] args) {
         promise1NewObject();
         promise2Line();
@@ -39,40 +36,6 @@ public final class PromisesTest {
         promise34Taken();
         promise35Count();
         C.finish();
-    }
-
-    private static void due(String call, long got, long want) {
-        C.due(call, got, want);
-    }
-
-    private static int law(WhoPrompts x, int which, String text) {
-        for (int k = 0; k < text.length(); k++) {
-            x.feed(text.charAt(k));
-        }
-        return x.law(which);
-    }
-
-    /** Lines without facts, each of 1 second, told by their pcl. */
-    private static WhoPrompts play(int... pcls) {
-        WhoPrompts x = new WhoPrompts();
-        for (int pcl : pcls) {
-            x.line(pcl, 1, 0);
-        }
-        return x;
-    }
-
-    private static void bytes(WhoPrompts x, int shelf, int... elements) {
-        x.row(shelf, 0, elements.length);
-        for (int k = 0; k < elements.length; k++) {
-            x.put(shelf, k, elements[k]);
-        }
-    }
-
-    private static void shorts(WhoPrompts x, int shelf, int... elements) {
-        x.row(shelf, 1, elements.length);
-        for (int k = 0; k < elements.length; k++) {
-            x.put(shelf, k, elements[k]);
-        }
     }
 
     private static void promise1NewObject() {
@@ -182,13 +145,17 @@ public final class PromisesTest {
         due("4 120 are there", x.count(1), 120);
     }
 
-    private static void promise5Law() {
+    private static WhoPrompts threeLines() {
         WhoPrompts x = new WhoPrompts();
         x.line(123, 7, 0);
         x.line(425, 9, 0);
         x.line(23, 1, 0);
         x.set(1, 4);
         x.mend(1, 0, 60);
+        return x;
+    }
+
+    private static void promise5Law() {
         Object[][] worths = {
             {"h", 60}, {"n", 4}, {"p", 4}, {"i", 1}, {"l", 9}, {"c", 2}, {"7", 7}, {"0042", 42},
             {"2+3*4", 14}, {"(2+3)*4", 20}, {"20-5-5", 10}, {"80/5/4", 4}, {"17%5", 2}, {"-17%5+9", 7},
@@ -201,9 +168,12 @@ public final class PromisesTest {
             {"((((((5))))))", 5}, {"!!!!!!5", 1}, {"(h)+(n)-(p)", 60},
             {"-(-(-2))+5", 3}, {"(1<2)<3", 1}, {"1?2<3|0;4", 1}};
         for (Object[] w : worths) {
+            WhoPrompts x = threeLines();
             due("5 law(0) of " + w[0], law(x, 0, (String) w[0]), 1);
             due("5 KNOWS by " + w[0], x.of(1, 7), (Integer) w[1]);
         }
+        WhoPrompts x = threeLines();
+        law(x, 0, "n<5");
         due("5 law(1)", law(x, 1, "h+i"), 1);
         due("5 GAINS by h+i", x.of(1, 8), 61);
         due("5 law(1) leaves law 0", x.of(1, 7), 1);
@@ -814,7 +784,6 @@ public final class PromisesTest {
             due("25 still " + k, y.redo(), k);
         }
         due("25 all again", y.of(0, 6), 45);
-        manyMixedChanges();
         mendsToTheSame();
     }
 
@@ -849,41 +818,6 @@ public final class PromisesTest {
             due("24 the same drops no old one, " + k, y.undo(), k);
         }
         due("24 back to the first", y.of(0, 6), 50);
-    }
-
-    private static void manyMixedChanges() {
-        WhoPrompts x = play(0, 0, 0, 0, 0, 0, 0);
-        int[][] values = new int[64][14];
-        for (int k = 0; k < 7; k++) {
-            values[0][k] = 50;
-        }
-        for (int k = 1; k < 64; k++) {
-            values[k] = values[k - 1].clone();
-            boolean held = k % 3 != 0;
-            int number = held ? k % 7 : k % 6;
-            int v = held ? k : k % 10;
-            x.mend(number, held ? 0 : 1, v);
-            values[k][held ? number : 7 + number] = v;
-        }
-        for (int k = 62; k >= 23; k--) {
-            x.undo();
-            sameValues("24 as behind change " + k, x, values[k]);
-        }
-        due("24 no more of them", x.undo(), -5);
-        for (int k = 24; k < 64; k++) {
-            x.redo();
-            sameValues("25 as behind change " + k, x, values[k]);
-        }
-        due("25 no more of them", x.redo(), -5);
-    }
-
-    private static void sameValues(String when, WhoPrompts x, int[] values) {
-        for (int k = 0; k < 7; k++) {
-            due(when + ", HELD of " + k, x.of(k, 6), values[k]);
-        }
-        for (int k = 0; k < 6; k++) {
-            due(when + ", PAUSE of " + k, x.of(k, 10), values[7 + k]);
-        }
     }
 
     private static void promise26Body() {

@@ -4,7 +4,8 @@ import java.util.Random;
 
 /** Long runs of drawn calls (always the same ones), each answer held against PlainModel's. */
 public final class RandomRunsTest {
-    private static final int RUNS = 600, CALLS = 400;
+    // An object may be used for 512 calls; what is drawn at once is seldom more than a hundred.
+    private static final int RUNS = 2400, CALLS = 400;
     private static final int[] EDGES = {Integer.MIN_VALUE, -100, -2, -1, 0, 1, 5, 6, 9, 10, 19, 20, 59, 60, 61,
         100, 101, 255, 256, 599, 600, 2020, Integer.MAX_VALUE};
     private static final String SIGNS = "hnpilc0123456789+-*/%<=>|&!()?;";
@@ -26,7 +27,7 @@ public final class RandomRunsTest {
     public static void main(String[] args) {
         for (int seed = 0; seed < RUNS; seed++) {
             RandomRunsTest test = new RandomRunsTest(seed);
-            for (int k = 0; k < CALLS && !test.checks.anyWrong(); k++) {
+            while (test.run.size() < CALLS && !test.checks.anyWrong()) {
                 test.step(test.dice.nextInt(100));
             }
             if (test.checks.anyWrong()) {
@@ -35,7 +36,7 @@ public final class RandomRunsTest {
                 System.exit(1);
             }
         }
-        System.out.println(RUNS + " runs of " + CALLS + " calls as due");
+        System.out.println(RUNS + " runs of " + CALLS + " calls and some as due");
     }
 
     /** Mostly a number within the bounds, now and then one just or far outside. */
