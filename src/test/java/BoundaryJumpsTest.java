@@ -310,6 +310,7 @@ public final class BoundaryJumpsTest extends TestBase {
                 due("the " + k + "-th", x.way(19, k), 2 + 2 * k);
             }
             due("none behind", x.way(19, 9), facts == 8 ? -1 : -2);
+            due("four FACTS were told", x.way(819, -1), facts == 8 ? 5 : -2);
         }
     }
 

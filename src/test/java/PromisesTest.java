@@ -383,24 +383,6 @@ public final class PromisesTest extends TestBase {
         ahead.line(0, 1, 2);
         ahead.line(0, 1, 2000);
         due("12 what stands ahead of i is told", ahead.way(100, -1), 1);
-        promise12WideSearch();
-    }
-
-    /** All jumps there can be, and a last line that needs what eight others tell. */
-    private static void promise12WideSearch() {
-        for (int facts = 7; facts <= 8; facts++) {
-            WhoPrompts x = new WhoPrompts();
-            for (int k = 0; k < 19; k++) {
-                boolean tells = k % 2 == 1 && k / 2 < facts;
-                x.line(0, 1, tells ? 1000 << k / 2 : 0);
-            }
-            x.line(0, 1, 255);
-            due("12 wide, of " + facts, x.way(19, -1), facts == 8 ? 9 : -2);
-            for (int k = 0; facts == 8 && k < 8; k++) {
-                due("12 wide, the " + k + "-th", x.way(19, k), 2 * k + 1);
-            }
-            due("12 wide, half of it was said", x.way(819, -1), facts == 8 ? 5 : -2);
-        }
     }
 
     private static void promise13Night() {
